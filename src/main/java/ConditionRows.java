@@ -150,11 +150,11 @@ public final class ConditionRows {
     }
 
     public int short0(int subject, int op, int object) {
-        if (!isRelation(op)) {
-            return OUTSIDE;
-        }
         if (!fields.has(subject) || !fields.has(object)) {
             return NO_SUCH;
+        }
+        if (!isRelation(op)) {
+            return OUTSIDE;
         }
         row.begin(subject, op, object);
         return 1;
@@ -585,7 +585,7 @@ public final class ConditionRows {
             for (int i = 0; i < length; i++) {
                 text[i] = bytes[field * MOST_TEXT + i];
             }
-            if (category[field] == DIGITS && text[length - 1] > NINE) {
+            if (category[field] == DIGITS && text[length - 1] >= NEGATIVE + ZERO) {
                 text[length - 1] -= NEGATIVE;
             }
             return length;

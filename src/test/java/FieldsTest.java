@@ -4,6 +4,7 @@ final class FieldsTest {
         newObject();
         field();
         firstBytes();
+        allOfTheLongest();
         octet();
         scale();
         weight();
@@ -71,6 +72,18 @@ final class FieldsTest {
         Check.due("new digits", rows.compare(1, 4), 0);
         Check.due("a new binary", rows.compare(2, 5), 0);
         Check.due("new digits as a text", rows.compare(1, Check.text(rows, "0000")), 0);
+    }
+
+    private static void allOfTheLongest() {
+        ConditionRows rows = new ConditionRows(0);
+        for (int number = 0; number < 40; number++) {
+            Check.due("field(0, 32)", rows.field(0, 32), number);
+            Check.due("its last byte", rows.octet(number, 31, number), 1);
+            Check.due("octet behind it", rows.octet(number, 32, 65), -4);
+        }
+        for (int number = 1; number < 40; number++) {
+            Check.due("fields stand apart", rows.compare(number, number - 1), 1);
+        }
     }
 
     private static void octet() {

@@ -213,11 +213,11 @@ final class ModelRunsTest {
         }
 
         int short0(int about, int op, int object) {
-            if (op < 0 || op > 5) {
-                return -4;
-            }
             if (!isField(about) || !isField(object)) {
                 return -2;
+            }
+            if (op < 0 || op > 5) {
+                return -4;
             }
             row = new ArrayList<>();
             subject = about;

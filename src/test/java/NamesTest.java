@@ -5,6 +5,7 @@ final class NamesTest {
         range();
         numbers();
         texts();
+        onlyItsRanges();
         Check.end();
     }
 
@@ -125,5 +126,24 @@ final class NamesTest {
         Check.due("a second range", holds(rows, name), true);
         rows.octet(ab, 1, 'D');
         Check.due("no longer in it", holds(rows, name), false);
+    }
+
+    // A value of 0 is in no range that was not given, and the last name has room for all of its own.
+    private static void onlyItsRanges() {
+        ConditionRows rows = new ConditionRows(0);
+        int zeros = Check.text(rows, "\0\0\0\0\0\0\0\0");
+        int number = rows.field(2, 1);
+        for (int name = 1; name <= 40; name++) {
+            rows.name88(name % 2 == 0 ? zeros : number, 1, 2);
+        }
+        Check.due("0 as a text", holds(rows, 40), false);
+        Check.due("0 as a number", holds(rows, 39), false);
+        for (int has = 2; has <= 8; has++) {
+            Check.due("range " + has, rows.range(40, has, has), has);
+            Check.due("0 as a text still", holds(rows, 40), false);
+        }
+        rows.octet(zeros, 7, 8);
+        Check.due("8 as a text", holds(rows, 40), true);
+        Check.due("8 is in no other", holds(rows, 38), false);
     }
 }
