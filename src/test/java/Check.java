@@ -4,6 +4,15 @@ final class Check {
     static final int ARGUMENT = 1;
     static final int STATE = 2;
 
+    /** What answer() tells for an exception. */
+    static final int THROWS_ARGUMENT = -101;
+    static final int THROWS_STATE = -102;
+
+    /** One call of the face; a boolean counts 1 or 0. */
+    interface Call {
+        int on(ConditionRows rows);
+    }
+
     private static int wrong = 0;
     private static int asked = 0;
 
@@ -46,6 +55,16 @@ final class Check {
         }
     }
 
+    static int answer(ConditionRows rows, Call call) {
+        try {
+            return call.on(rows);
+        } catch (IllegalArgumentException e) {
+            return THROWS_ARGUMENT;
+        } catch (IllegalStateException e) {
+            return THROWS_STATE;
+        }
+    }
+
     static void dueLeaves(String what, ConditionRows rows, int... leaves) {
         due(what + ": count(4)", rows.count(4), leaves.length);
         for (int i = 0; i < leaves.length; i++) {
@@ -63,6 +82,11 @@ final class Check {
     /** A new field of digits with the text's characters as its bytes. */
     static int digits(ConditionRows rows, String text) {
         return filled(rows, rows.field(1, text.length()), text);
+    }
+
+    /** A name of the field with the one value that holds. */
+    static boolean hasValue(ConditionRows rows, int field, long value) {
+        return rows.truth(rows.node(8, rows.name88(field, value, value), 0));
     }
 
     private static int filled(ConditionRows rows, int field, String text) {

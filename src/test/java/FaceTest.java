@@ -38,6 +38,11 @@ final class FaceTest {
                 Check.due("no public name: " + method, publicNames.contains(method.getName()), false);
             }
         }
+        for (Class<?> inside : ConditionRows.class.getDeclaredClasses()) {
+            for (Method method : inside.getDeclaredMethods()) {
+                Check.due("no public name: " + method, publicNames.contains(method.getName()), false);
+            }
+        }
     }
 
     private static void constructorsAndFields() {

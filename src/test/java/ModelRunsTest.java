@@ -582,9 +582,6 @@ final class ModelRunsTest {
         int object = someField();
         if (kind < 2) {
             int subject = someField();
-            boolean fieldsAreThere = model.isField(subject) && model.isField(object);
-            // Which refusal is first here is not quite clear in the document.
-            op = fieldsAreThere ? op : Math.floorMod(op, 6);
             due("short0(" + subject + ", " + op + ", " + object + ")", rows.short0(subject, op, object),
                 model.short0(subject, op, object));
         } else if (kind < 18) {
