@@ -10,8 +10,10 @@ final class FaceTest {
     private static final String[] METHODS = {
         "int field(int, int)", "int octet(int, int, int)", "int scale(int, int)", "int weight(int, int)",
         "int node(int, int, int)", "int name88(int, long, long)", "int range(int, long, long)",
-        "int short0(int, int, int)", "int more(int, boolean, int, int)", "int unfold()", "boolean truth(int)",
-        "int asked(int)", "int switchOn(int, boolean)", "int compare(int, int)", "int count(int)"
+        "int short0(int, int, int)", "int more(int, boolean, int, int)", "int unfold()",
+        "boolean truth(int) throws IllegalArgumentException IllegalStateException",
+        "int asked(int)", "int switchOn(int, boolean)",
+        "int compare(int, int) throws IllegalArgumentException IllegalStateException", "int count(int)"
     };
 
     public static void main(String[] args) {
@@ -49,6 +51,8 @@ final class FaceTest {
         Constructor<?>[] constructors = ConditionRows.class.getDeclaredConstructors();
         Check.due("constructors", constructors.length, 1);
         Check.due("its parameters", constructors[0].getParameterCount(), 1);
+        Check.due("its order", constructors[0].getParameterTypes()[0] == int.class, true);
+        Check.due("public", constructors[0].getModifiers(), Modifier.PUBLIC);
         for (Field field : ConditionRows.class.getDeclaredFields()) {
             boolean isPrivate = Modifier.isPrivate(field.getModifiers());
             Check.due("private but for NONE: " + field, isPrivate, !field.getName().equals("NONE"));
@@ -67,6 +71,12 @@ final class FaceTest {
             text.append(between).append(type.getName());
             between = ", ";
         }
-        return text.append(')').toString();
+        text.append(')');
+        between = " throws ";
+        for (Class<?> type : method.getExceptionTypes()) {
+            text.append(between).append(type.getSimpleName());
+            between = " ";
+        }
+        return text.toString();
     }
 }
