@@ -4,7 +4,6 @@ import java.util.ArrayList;
 import java.util.HashMap;
 import java.util.List;
 import java.util.Map;
-import java.util.Random;
 
 /**
  * Long runs of calls, the same ones each time, on an object and on a plain
@@ -16,6 +15,34 @@ final class ModelRunsTest {
     // Nothing is promised behind an object's 512th call.
     private static final int CALLS = 512;
     private static final int LAST_COUNTS = 8;
+
+    /** Well mixed numbers, always the same ones for the same seed. */
+    private static final class Mix {
+        private long state;
+
+        Mix(int seed) {
+            state = seed * 0xD1342543DE82EF95L;
+        }
+
+        long nextLong() {
+            state += 0x9E3779B97F4A7C15L;
+            long mixed = (state ^ state >>> 30) * 0xBF58476D1CE4E5B9L;
+            mixed = (mixed ^ mixed >>> 27) * 0x94D049BB133111EBL;
+            return mixed ^ mixed >>> 31;
+        }
+
+        int nextInt() {
+            return (int) nextLong();
+        }
+
+        int nextInt(int bound) {
+            return (int) Long.remainderUnsigned(nextLong(), bound);
+        }
+
+        boolean nextBoolean() {
+            return nextLong() < 0;
+        }
+    }
 
     private static final class Field {
         int category;
@@ -422,15 +449,15 @@ final class ModelRunsTest {
         }
     }
 
-    private final Random random;
+    private final Mix mix;
     private final Model model;
     private final ConditionRows rows;
     private final String run;
     private int calls = 0;
 
     private ModelRunsTest(int seed) {
-        random = new Random(seed);
-        int order = seed % 2 * (random.nextInt(5) - 2);
+        mix = new Mix(seed);
+        int order = seed % 2 * (mix.nextInt(5) - 2);
         model = new Model(order);
         rows = new ConditionRows(order);
         run = "run " + seed + ": ";
@@ -451,11 +478,11 @@ final class ModelRunsTest {
 
     // Mostly from 0 to most - 1; now and then just outside, or far outside.
     private int about(int most) {
-        int kind = random.nextInt(40);
+        int kind = mix.nextInt(40);
         if (kind == 0) {
-            return new int[] {Integer.MIN_VALUE, Integer.MAX_VALUE, -2, 1000}[random.nextInt(4)];
+            return new int[] {Integer.MIN_VALUE, Integer.MAX_VALUE, -2, 1000}[mix.nextInt(4)];
         }
-        return kind == 1 ? -1 : kind == 2 ? most : random.nextInt(Math.max(1, most));
+        return kind == 1 ? -1 : kind == 2 ? most : mix.nextInt(Math.max(1, most));
     }
 
     private int someField() {
@@ -464,36 +491,36 @@ final class ModelRunsTest {
 
     private int someNode() {
         int made = model.nodes.size();
-        return random.nextBoolean() ? about(made) : made - 1 - random.nextInt(Math.min(made, 8));
+        return mix.nextBoolean() ? about(made) : made - 1 - mix.nextInt(Math.min(made, 8));
     }
 
     private int someByte(int category) {
-        if (random.nextInt(12) == 0) {
-            return random.nextInt();
+        if (mix.nextInt(12) == 0) {
+            return mix.nextInt();
         }
         if (category == 0) {
-            return "AZaz 0159@[`{\u00e9".charAt(random.nextInt(14));
+            return "AZaz 0159@[`{\u00e9".charAt(mix.nextInt(14));
         }
-        return category == 1 ? 48 + random.nextInt(10) : random.nextInt(3) - 1;
+        return category == 1 ? 48 + mix.nextInt(10) : mix.nextInt(3) - 1;
     }
 
     private long someEnd(int field) {
-        if (model.isField(field) && random.nextInt(4) > 0 && !model.fields.get(field).bad()) {
+        if (model.isField(field) && mix.nextInt(4) > 0 && !model.fields.get(field).bad()) {
             Field of = model.fields.get(field);
             if (of.category > 0) {
-                return of.whole().longValue() + random.nextInt(5) - 2;
+                return of.whole().longValue() + mix.nextInt(5) - 2;
             }
             long value = 0;
             for (char c : (of.text() + "        ").substring(0, 8).toCharArray()) {
                 value = value << 8 | c;
             }
-            return value + random.nextInt(5) - 2;
+            return value + mix.nextInt(5) - 2;
         }
-        return random.nextInt(3) == 0 ? random.nextLong() : random.nextInt(21) - 10;
+        return mix.nextInt(3) == 0 ? mix.nextLong() : mix.nextInt(21) - 10;
     }
 
     private void oneCall() {
-        int kind = random.nextInt(100);
+        int kind = mix.nextInt(100);
         if (calls < 12 || kind < 3) {
             field();
         } else if (kind < 25) {
@@ -503,7 +530,7 @@ final class ModelRunsTest {
             int n = about(10);
             due("scale(" + field + ", " + n + ")", rows.scale(field, n), model.scale(field, n));
         } else if (kind < 30) {
-            int b = random.nextBoolean() ? about(256) : someByte(0);
+            int b = mix.nextBoolean() ? about(256) : someByte(0);
             int w = about(256);
             due("weight(" + b + ", " + w + ")", rows.weight(b, w), model.weight(b, w));
         } else if (kind < 48) {
@@ -516,7 +543,7 @@ final class ModelRunsTest {
             truth();
         } else if (kind < 88) {
             int n = about(16);
-            boolean on = random.nextBoolean();
+            boolean on = mix.nextBoolean();
             int was = n < 0 || n > 15 ? -4 : model.on[n] ? 1 : 0;
             due("switchOn(" + n + ", " + on + ")", rows.switchOn(n, on), was);
             if (was != -4) {
@@ -537,7 +564,7 @@ final class ModelRunsTest {
 
     private void field() {
         int category = about(3);
-        int size = random.nextBoolean() ? 1 + random.nextInt(4) : about(category == 0 ? 33 : category == 1 ? 19 : 9);
+        int size = mix.nextBoolean() ? 1 + mix.nextInt(4) : about(category == 0 ? 33 : category == 1 ? 19 : 9);
         due("field(" + category + ", " + size + ")", rows.field(category, size), model.field(category, size));
     }
 
@@ -546,8 +573,8 @@ final class ModelRunsTest {
         Field of = model.isField(field) ? model.fields.get(field) : null;
         int i = about(of == null ? 3 : of.bytes.length);
         int b = someByte(of == null ? 0 : of.category);
-        if (of != null && of.category == 1 && i == of.bytes.length - 1 && random.nextInt(3) == 0) {
-            b = 111 + random.nextInt(12);
+        if (of != null && of.category == 1 && i == of.bytes.length - 1 && mix.nextInt(3) == 0) {
+            b = 111 + mix.nextInt(12);
         }
         due("octet(" + field + ", " + i + ", " + b + ")", rows.octet(field, i, b), model.octet(field, i, b));
     }
@@ -560,24 +587,24 @@ final class ModelRunsTest {
     }
 
     private void names() {
-        if (random.nextBoolean()) {
+        if (mix.nextBoolean()) {
             int field = someField();
             long low = someEnd(field);
-            long high = random.nextBoolean() ? low + random.nextInt(4) : someEnd(field);
+            long high = mix.nextBoolean() ? low + mix.nextInt(4) : someEnd(field);
             due("name88(" + field + ", " + low + ", " + high + ")", rows.name88(field, low, high),
                 model.name88(field, low, high));
         } else {
             int name = about(Math.min(4, model.names.size()));
             int field = model.isName(name) ? model.fields.indexOf(model.names.get(name).field) : -1;
             long low = someEnd(field);
-            long high = random.nextBoolean() ? low + random.nextInt(4) : someEnd(field);
+            long high = mix.nextBoolean() ? low + mix.nextInt(4) : someEnd(field);
             due("range(" + name + ", " + low + ", " + high + ")", rows.range(name, low, high),
                 model.range(name, low, high));
         }
     }
 
     private void row() {
-        int kind = random.nextInt(20);
+        int kind = mix.nextInt(20);
         int op = about(6);
         int object = someField();
         if (kind < 2) {
@@ -586,8 +613,8 @@ final class ModelRunsTest {
                 model.short0(subject, op, object));
         } else if (kind < 18) {
             int with = about(2);
-            boolean not = random.nextBoolean();
-            op = random.nextBoolean() ? -1 : op;
+            boolean not = mix.nextBoolean();
+            op = mix.nextBoolean() ? -1 : op;
             due("more(" + with + ", " + not + ", " + op + ", " + object + ")", rows.more(with, not, op, object),
                 model.more(with, not, op, object));
         } else {
